@@ -17,6 +17,7 @@ public final class ChangesTest {
         promise10Customs();
         promise10Lost();
         promise10TwoOnADay();
+        promise10Draws();
         promise11Shuffle();
         check.end();
     }
@@ -382,6 +383,24 @@ public final class ChangesTest {
         x.set(7, 0);
         check.due("pass(7)", x.pass(7), 3);
         check.due("home", x.strings(0, 3, false), 2);
+    }
+
+    private static void promise10Draws() {
+        check.about("10 pass, how a number is drawn");
+        HarpOrders x = new HarpOrders();
+        x.pay(0, 1000);
+        x.set(7, 1);
+        x.set(8, 0);
+        x.want(0, 0, 1);
+        // Then x becomes 100 * 65536 when it draws, and with the other one 1 less than that.
+        x.shuffle(1877714563);
+        x.send(1);
+        check.due("0 is below 1", x.pass(5), 0);
+        check.due("opened", x.count(12), 1);
+        x.undo();
+        x.shuffle(20036382);
+        check.due("99 is not below 1", x.pass(5), 1);
+        check.due("x", x.count(16), 100 * 65536 - 1);
     }
 
     private static void promise11Shuffle() {

@@ -9,6 +9,7 @@ public final class WhatIfTest {
         promise18IfMore();
         promise19BestParting();
         promise19Ties();
+        promise19LastAlone();
         promise20StandIn();
         promise21UntilHome();
         nothingChanges();
@@ -74,6 +75,11 @@ public final class WhatIfTest {
         check.due("share of 2", x.share(28, 2), 40 + 11);
         check.due("share of 3", x.share(28, 3), 35 + 16);
         check.due("not of an empty set", x.share(0, 1), 0);
+        x.want(1, 0, 0);
+        check.due("of members who want nothing, after others", x.share(28, 4) > 0 ? x.share(2, 1) : -1, 0);
+        check.due("share(16, 4)", x.share(16, 4), 15 + 22);
+        x.want(4, 1, 0);
+        check.due("wants nothing any more", x.share(16, 4), 0);
         x.set(1, 99);
         x.set(2, 9);
         int all = 0;
@@ -134,7 +140,7 @@ public final class WhatIfTest {
         check.due("set", x.bestParting(0), 9);
         check.due("pence", x.bestParting(1), 215 + 17);
         x.set(1, 17);
-        check.due("the post of two parcels is as dear", x.bestParting(0), 9);
+        check.due("the post of two parcels is dearer, but less than the duty", x.bestParting(0), 9);
         x.set(1, 99);
         check.due("the post of two parcels is dearer", x.bestParting(0), 0);
         check.due("pence", x.bestParting(1), 215 + 99 + 62);
@@ -159,6 +165,21 @@ public final class WhatIfTest {
         x.set(6, 50);
         x.set(1, 20);
         check.due("duty is the same, and the post dearer", x.bestParting(0), 0);
+    }
+
+    private static void promise19LastAlone() {
+        check.about("19 bestParting, the last one alone");
+        HarpOrders x = new HarpOrders();
+        x.set(1, 0);
+        x.set(2, 0);
+        x.set(5, 45);
+        x.set(6, 50);
+        x.want(5, 7, 1);
+        for (int member = 0; member < 5; member++) {
+            x.want(member, 0, 1);
+        }
+        check.due("set", x.bestParting(0), 31);
+        check.due("pence", x.bestParting(1), 85);
     }
 
     private static void promise20StandIn() {
