@@ -17,11 +17,15 @@ public final class LanguageTest {
     private static final String[] FORBIDDEN = {"\\bthrow\\b", "\\btry\\b", "\\bcatch\\b", "\\bfinally\\b",
         "\\bsynchronized\\b", "\\bassert\\b", "\\bpackage\\b", "->", "::", "\\bvar\\b", "\\w+Exact\\b", "\\bSystem\\.(?!arraycopy)",
         "\\bThread\\b", "\\bRandom\\b", "\\bequals\\b", "\\bhashCode\\b", "\\btoString\\b", "\\bObject\\b", "@", "\"",
-        "\\bstatic\\s*\\{", "\\bvolatile\\b", "\\btransient\\b", "\\bnative\\b"};
+        "\\bstatic\\s*\\{", "\\bnew\\s+\\w+\\([^)]*\\)\\s*\\{", "\\bjava\\.(?!util\\.\\w+;)", "\\bvolatile\\b", "\\btransient\\b", "\\bnative\\b"};
+    private static final Set<Class<?>> CONSTANT_TYPES = Set.of(int.class, long.class, boolean.class, char.class,
+        String.class, int[].class, long[].class, char[].class, byte[].class);
     private static final Check check = new Check();
 
     public static void main(String[] args) throws Exception {
-        words(Files.readString(Path.of("src/main/java/HarpOrders.java")));
+        String text = Files.readString(Path.of("src/main/java/HarpOrders.java"));
+        words(text);
+        lengths(text.split("\n"));
         face();
         for (Class<?> inside : HarpOrders.class.getDeclaredClasses()) {
             inside(inside);
@@ -42,6 +46,24 @@ public final class LanguageTest {
         while (imports.find()) {
             check.holds(imports.group(1), Set.of("java.util.Arrays", "java.util.ArrayList", "java.util.List").contains(imports.group(1)));
         }
+    }
+
+    /** A method begins behind a line that ends with ") {" at the depth of a class, and ends with "}" at that depth. */
+    private static void lengths(String[] lines) {
+        check.about("lengths");
+        int begun = -1;
+        String margin = "";
+        for (int i = 0; i < lines.length; i++) {
+            Matcher head = Pattern.compile("( {4}| {8})(?!if|for|while|switch|\\})\\w.*\\) \\{").matcher(lines[i]);
+            if (begun < 0 && head.matches()) {
+                begun = i;
+                margin = head.group(1);
+            } else if (begun >= 0 && lines[i].equals(margin + "}")) {
+                check.holds("sixty lines at most: " + lines[begun].trim(), i - begun - 1 <= 60);
+                begun = -1;
+            }
+        }
+        check.due("a method that does not end", begun, -1);
     }
 
     private static void face() {
@@ -75,6 +97,15 @@ public final class LanguageTest {
         fields(program);
     }
 
+    /** A number, a boolean, a text, an own class; one row of these, or a table of numbers. */
+    private static boolean isFieldType(Class<?> type) {
+        Class<?> element = type.isArray() ? type.getComponentType() : type;
+        if (element.isArray()) {
+            return element.getComponentType().isPrimitive() && element.getComponentType() != boolean.class;
+        }
+        return element.isPrimitive() || element == String.class || element.getEnclosingClass() == HarpOrders.class;
+    }
+
     private static void inside(Class<?> inside) {
         check.about(inside.getName());
         check.holds("static", Modifier.isStatic(inside.getModifiers()));
@@ -91,8 +122,10 @@ public final class LanguageTest {
         for (Field field : owner.getDeclaredFields()) {
             if (Modifier.isStatic(field.getModifiers())) {
                 check.holds("final: " + field, Modifier.isFinal(field.getModifiers()));
+                check.holds("a constant's type: " + field, CONSTANT_TYPES.contains(field.getType()));
             } else {
                 many++;
+                check.holds("a field's type: " + field, isFieldType(field.getType()));
             }
         }
         check.holds("some twenty fields", many <= 20);
