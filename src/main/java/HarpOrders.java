@@ -18,6 +18,8 @@ public final class HarpOrders {
     private static final int PARCELS = 5;
     private static final int MOST_SPARE = 99;
     private static final int MOST_WANTED = 20;
+    // Of a call that gives strings or asks for more of them.
+    private static final int MOST_AT_ONCE = 20;
     private static final int MOST_PENCE = 1000;
     private static final int MOST_DAYS = 60;
     private static final int LAST_DAY = 9999;
@@ -128,7 +130,7 @@ public final class HarpOrders {
         if (!isMember(member) || !isMember(other) || !isGauge(gauge)) {
             return NO_SUCH;
         }
-        if (member == other || many < 1 || many > MOST_WANTED) {
+        if (member == other || many < 1 || many > MOST_AT_ONCE) {
             return BAD_VALUE;
         }
         if (club.spare[member][gauge] < many || club.spare[other][gauge] + many > MOST_SPARE) {
@@ -280,7 +282,7 @@ public final class HarpOrders {
         if (!isMember(member) || !isGauge(gauge)) {
             return NO_SUCH;
         }
-        if (many < 1 || many > MOST_WANTED) {
+        if (many < 1 || many > MOST_AT_ONCE) {
             return BAD_VALUE;
         }
         int before = costOf(ALL_MEMBERS);
